@@ -63,7 +63,7 @@ public final class BusHandler {
     private final int[] vectorRanks;
     private final Queue[] pendingQueues;
     private Router router;
-    private final StringBuilder line;
+    private final StringBuilder writtenLine;
 
     /** For each list and box the number of that for which it waits; filled anew when it is asked for. */
     private final int[] waits;
@@ -81,7 +81,7 @@ public final class BusHandler {
         for (int v = 0; v < VECTORS; v++) {
             pendingQueues[v] = new Queue(NONE, OPEN_QUEUE);
         }
-        line = new StringBuilder();
+        writtenLine = new StringBuilder();
         waits = new int[PLACES];
         ring = new int[PLACES];
     }
@@ -491,21 +491,21 @@ public final class BusHandler {
 
     public int writeAgent(int agent) {
         Agent written = agentAt(agent);
-        line.setLength(0);
-        line.append(written.number).append(' ').append(nameOf(written.kind));
-        line.append(" bus").append(written.bus);
+        writtenLine.setLength(0);
+        writtenLine.append(written.number).append(' ').append(nameOf(written.kind));
+        writtenLine.append(" bus").append(written.bus);
         appendMessages(written.list);
         if (written instanceof Bridge bridge) {
             appendMessages(bridge.lower);
         }
-        return line.length();
+        return writtenLine.length();
     }
 
     public char lineAt(int index) {
-        if (index < 0 || index >= line.length()) {
+        if (index < 0 || index >= writtenLine.length()) {
             throw new IndexOutOfBoundsException();
         }
-        return line.charAt(index);
+        return writtenLine.charAt(index);
     }
 
     // ---- what the calls need
@@ -911,9 +911,9 @@ public final class BusHandler {
     private void appendMessages(Queue list) {
         for (int i = 0; i < list.messages.size(); i++) {
             Message message = list.messages.get(i);
-            line.append(' ').append(message.kind);
+            writtenLine.append(' ').append(message.kind);
             if (message.kind != ANSWER) {
-                line.append(message.address);
+                writtenLine.append(message.address);
             }
         }
     }

@@ -116,6 +116,13 @@ public final class BuildingTest {
         Check.thrown("17th bridge", Check.STATE, () -> x.addBridge(0, 500, 8));
         Check.thrown("17th on no bus", Check.OUT, () -> x.addProcessor(1));
         Check.due("no bus was added", x.buses(), 1);
+        Check.due("no line is raised", x.raisedOn(0), 0);
+        BusHandler y = new BusHandler();
+        for (int k = 0; k < 16; k++) {
+            y.addProcessor(0);
+        }
+        Check.thrown("17th agent, no router yet", Check.STATE, () -> y.addRouter(0, 500));
+        Check.due("it runs", y.run(2), 0);
     }
 
     private static void windowsAndBuses() {
