@@ -1269,7 +1269,9 @@ public final class BusHandler {
             }
             Arrays.fill(replayed, 0);
             for (int i = 0; i < logCount; i++) {
-                replayed[logOffsets[i]] = logValues[i];
+                if (hasCell(logOffsets[i])) {
+                    replayed[logOffsets[i]] = logValues[i];
+                }
             }
             for (int offset = 0; offset < cells.length; offset++) {
                 if (replayed[offset] != cells[offset]) {
