@@ -88,7 +88,8 @@ public final class BusHandler {
 
     // ---- building
 
-    public int addMemory(int bus, int base, int size) {
+    public int addMemory(int bus, int base, int size)
+            throws IndexOutOfBoundsException, IllegalArgumentException, IllegalStateException {
         needBus(bus);
         if (size < 1 || size > MAX_CELLS || !isFree(bus, base, size, NONE)) {
             throw new IllegalArgumentException();
@@ -97,13 +98,14 @@ public final class BusHandler {
         return install(new Memory(tally, agentCount, bus, base, size));
     }
 
-    public int addProcessor(int bus) {
+    public int addProcessor(int bus) throws IndexOutOfBoundsException, IllegalStateException {
         needBus(bus);
         needAgentRoom();
         return install(new Processor(tally, agentCount, bus));
     }
 
-    public int addDevice(int bus, int base) {
+    public int addDevice(int bus, int base)
+            throws IndexOutOfBoundsException, IllegalArgumentException, IllegalStateException {
         needBus(bus);
         if (!isFree(bus, base, REGISTERS, NONE)) {
             throw new IllegalArgumentException();
@@ -112,7 +114,8 @@ public final class BusHandler {
         return install(new Device(tally, agentCount, bus, base));
     }
 
-    public int addRouter(int bus, int base) {
+    public int addRouter(int bus, int base)
+            throws IndexOutOfBoundsException, IllegalArgumentException, IllegalStateException {
         needBus(bus);
         if (!isFree(bus, base, VECTORS, NONE)) {
             throw new IllegalArgumentException();
@@ -125,7 +128,8 @@ public final class BusHandler {
         return install(router);
     }
 
-    public int addBridge(int bus, int base, int size) {
+    public int addBridge(int bus, int base, int size)
+            throws IndexOutOfBoundsException, IllegalArgumentException, IllegalStateException {
         needBus(bus);
         if (size < 1 || size > ADDRESSES || !isFree(bus, base, size, NONE)) {
             throw new IllegalArgumentException();
@@ -140,7 +144,7 @@ public final class BusHandler {
         return install(bridge);
     }
 
-    public int moveWindow(int agent, int base) {
+    public int moveWindow(int agent, int base) throws IndexOutOfBoundsException, IllegalArgumentException {
         Agent moved = agentAt(agent);
         if (moved.size == 0 || moved.isGone || !isFree(moved.bus, base, moved.size, agent)) {
             throw new IllegalArgumentException();
@@ -150,7 +154,7 @@ public final class BusHandler {
         return before;
     }
 
-    public int setRank(int agent, int rank) {
+    public int setRank(int agent, int rank) throws IndexOutOfBoundsException, IllegalArgumentException {
         Agent ranked = agentAt(agent);
         if (rank < 0 || rank > MAX_RANK) {
             throw new IllegalArgumentException();
@@ -160,14 +164,14 @@ public final class BusHandler {
         return before;
     }
 
-    public boolean setArbiter(int bus, boolean isByRank) {
+    public boolean setArbiter(int bus, boolean isByRank) throws IndexOutOfBoundsException {
         Bus arbitrated = busAt(bus);
         boolean before = arbitrated.isByRank;
         arbitrated.isByRank = isByRank;
         return before;
     }
 
-    public boolean setLoose(int agent, boolean isLoose) {
+    public boolean setLoose(int agent, boolean isLoose) throws IndexOutOfBoundsException, IllegalArgumentException {
         if (agentAt(agent) instanceof Bridge bridge) {
             if (isLoose) {
                 tally.wasLoose = true;
@@ -181,11 +185,11 @@ public final class BusHandler {
         return busCount;
     }
 
-    public char kindOf(int agent) {
+    public char kindOf(int agent) throws IndexOutOfBoundsException {
         return agentAt(agent).kind;
     }
 
-    public int targetOf(int bus, int address) {
+    public int targetOf(int bus, int address) throws IndexOutOfBoundsException, IllegalArgumentException {
         Bus asked = busAt(bus);
         needAddress(address);
         Agent claimant = claimantOf(asked, address);
@@ -194,7 +198,8 @@ public final class BusHandler {
 
     // ---- programs
 
-    public int addWrite(int processor, int address, int value) {
+    public int addWrite(int processor, int address, int value)
+            throws IndexOutOfBoundsException, IllegalArgumentException, IllegalStateException {
         Processor programmed = processorAt(processor);
         needAddress(address);
         needValue(value);
@@ -202,14 +207,16 @@ public final class BusHandler {
         return programmed.addStep(STEP_WRITE, address, value);
     }
 
-    public int addRead(int processor, int address) {
+    public int addRead(int processor, int address)
+            throws IndexOutOfBoundsException, IllegalArgumentException, IllegalStateException {
         Processor programmed = processorAt(processor);
         needAddress(address);
         needStepRoom(programmed);
         return programmed.addStep(STEP_READ, address, 0);
     }
 
-    public int addWait(int processor, int vector) {
+    public int addWait(int processor, int vector)
+            throws IndexOutOfBoundsException, IllegalArgumentException, IllegalStateException {
         Processor programmed = processorAt(processor);
         if (vector != NONE) {
             needVector(vector);
@@ -218,33 +225,33 @@ public final class BusHandler {
         return programmed.addStep(STEP_WAIT, vector, 0);
     }
 
-    public int stepOf(int processor) {
+    public int stepOf(int processor) throws IndexOutOfBoundsException {
         return processorAt(processor).done;
     }
 
-    public int readsOf(int processor) {
+    public int readsOf(int processor) throws IndexOutOfBoundsException {
         return processorAt(processor).readCount;
     }
 
-    public int valueAt(int processor, int index) {
+    public int valueAt(int processor, int index) throws IndexOutOfBoundsException, NoSuchElementException {
         Processor asked = processorAt(processor);
         needElement(index, asked.readCount);
         return asked.readValues[index];
     }
 
-    public char errorAt(int processor, int index) {
+    public char errorAt(int processor, int index) throws IndexOutOfBoundsException, NoSuchElementException {
         Processor asked = processorAt(processor);
         needElement(index, asked.readCount);
         return asked.readErrors[index];
     }
 
-    public int takenAt(int processor, int index) {
+    public int takenAt(int processor, int index) throws IndexOutOfBoundsException, NoSuchElementException {
         Processor asked = processorAt(processor);
         needElement(index, asked.takenCount);
         return asked.takenVectors[index];
     }
 
-    public boolean isCached(int processor, int address) {
+    public boolean isCached(int processor, int address) throws IndexOutOfBoundsException, IllegalArgumentException {
         Processor asked = processorAt(processor);
         needAddress(address);
         return asked.cacheIndexOf(address) >= 0;
@@ -252,7 +259,8 @@ public final class BusHandler {
 
     // ---- devices
 
-    public int load(int device, int value) {
+    public int load(int device, int value)
+            throws IndexOutOfBoundsException, IllegalArgumentException, IllegalStateException {
         Device loaded = deviceAt(device);
         needValue(value);
         if (loaded.isGone || loaded.dataCount >= DEVICE_ROOM) {
@@ -263,7 +271,7 @@ public final class BusHandler {
         return loaded.dataCount;
     }
 
-    public int setMessage(int device, int address) {
+    public int setMessage(int device, int address) throws IndexOutOfBoundsException, IllegalArgumentException {
         Device told = deviceAt(device);
         needAddress(address);
         int before = told.messageAddress;
@@ -272,7 +280,7 @@ public final class BusHandler {
         return before;
     }
 
-    public int setLine(int device, int line) {
+    public int setLine(int device, int line) throws IndexOutOfBoundsException, IllegalArgumentException {
         Device told = deviceAt(device);
         if (line != NONE) {
             needLine(line);
@@ -283,12 +291,12 @@ public final class BusHandler {
         return before;
     }
 
-    public char stateOf(int device) {
+    public char stateOf(int device) throws IndexOutOfBoundsException {
         Device asked = deviceAt(device);
         return asked.isGone ? 'g' : asked.state;
     }
 
-    public int register(int device, int index) {
+    public int register(int device, int index) throws IndexOutOfBoundsException {
         Device asked = deviceAt(device);
         if (index < 0 || index >= REGISTERS) {
             throw new IndexOutOfBoundsException();
@@ -296,33 +304,33 @@ public final class BusHandler {
         return asked.registerValue(index);
     }
 
-    public int ringIndex(int device) {
+    public int ringIndex(int device) throws IndexOutOfBoundsException {
         return deviceAt(device).ringPlace;
     }
 
-    public int received(int device) {
+    public int received(int device) throws IndexOutOfBoundsException {
         return deviceAt(device).gainedCount;
     }
 
-    public int receivedAt(int device, int index) {
+    public int receivedAt(int device, int index) throws IndexOutOfBoundsException, NoSuchElementException {
         Device asked = deviceAt(device);
         needElement(index, asked.gainedCount);
         return asked.gained[index];
     }
 
-    public int blocksOf(int device) {
+    public int blocksOf(int device) throws IndexOutOfBoundsException {
         return deviceAt(device).blockCount;
     }
 
-    public int errorsOf(int device) {
+    public int errorsOf(int device) throws IndexOutOfBoundsException {
         return deviceAt(device).errorCount;
     }
 
-    public char lastError(int device) {
+    public char lastError(int device) throws IndexOutOfBoundsException {
         return deviceAt(device).latestError;
     }
 
-    public int pull(int device) {
+    public int pull(int device) throws IndexOutOfBoundsException, IllegalStateException {
         Device pulled = deviceAt(device);
         if (pulled.isGone) {
             throw new IllegalStateException();
@@ -332,35 +340,35 @@ public final class BusHandler {
 
     // ---- memories and interrupts
 
-    public int put(int memory, int offset, int value) {
+    public int put(int memory, int offset, int value) throws IndexOutOfBoundsException, IllegalArgumentException {
         Memory changed = memoryWith(memory, offset);
         needValue(value);
         return changed.store(offset, value);
     }
 
-    public int cellAt(int memory, int offset) {
+    public int cellAt(int memory, int offset) throws IndexOutOfBoundsException {
         return memoryWith(memory, offset).cells[offset];
     }
 
-    public int cellAnew(int memory, int offset) {
+    public int cellAnew(int memory, int offset) throws IndexOutOfBoundsException {
         return memoryWith(memory, offset).loggedAt(offset);
     }
 
-    public boolean spoil(int memory, int offset) {
+    public boolean spoil(int memory, int offset) throws IndexOutOfBoundsException {
         Memory spoilt = memoryWith(memory, offset);
         boolean before = spoilt.isSpoilt[offset];
         spoilt.isSpoilt[offset] = true;
         return before;
     }
 
-    public boolean setMask(int vector, boolean isMasked) {
+    public boolean setMask(int vector, boolean isMasked) throws IllegalArgumentException {
         needVector(vector);
         boolean before = isMaskedAt[vector];
         isMaskedAt[vector] = isMasked;
         return before;
     }
 
-    public int setVectorRank(int vector, int rank) {
+    public int setVectorRank(int vector, int rank) throws IllegalArgumentException {
         needVector(vector);
         if (rank < 0 || rank > MAX_RANK) {
             throw new IllegalArgumentException();
@@ -370,12 +378,12 @@ public final class BusHandler {
         return before;
     }
 
-    public int pending(int vector) {
+    public int pending(int vector) throws IllegalArgumentException {
         needVector(vector);
         return pendingQueues[vector].messages.size();
     }
 
-    public int raisedOn(int line) {
+    public int raisedOn(int line) throws IllegalArgumentException {
         needLine(line);
         return countRaisers(line);
     }
@@ -386,7 +394,7 @@ public final class BusHandler {
 
     // ---- cycles
 
-    public int run(int cycles) {
+    public int run(int cycles) throws IllegalArgumentException, IllegalStateException {
         if (cycles < 1 || cycles > MAX_RUN) {
             throw new IllegalArgumentException();
         }
@@ -408,25 +416,26 @@ public final class BusHandler {
         return tally.cycle;
     }
 
-    public int listLength(int agent, boolean isLower) {
+    public int listLength(int agent, boolean isLower) throws IndexOutOfBoundsException, IllegalArgumentException {
         return listAt(agent, isLower).messages.size();
     }
 
-    public char messageAt(int agent, boolean isLower, int index) {
+    public char messageAt(int agent, boolean isLower, int index)
+            throws IndexOutOfBoundsException, IllegalArgumentException, NoSuchElementException {
         Queue asked = listAt(agent, isLower);
         needElement(index, asked.messages.size());
         return asked.messages.get(index).kind;
     }
 
-    public int inbox(int memory) {
+    public int inbox(int memory) throws IndexOutOfBoundsException {
         return memoryAt(memory).box.messages.size();
     }
 
-    public int asksOf(int agent) {
+    public int asksOf(int agent) throws IndexOutOfBoundsException {
         return agentAt(agent).askCount;
     }
 
-    public long sentOn(int bus) {
+    public long sentOn(int bus) throws IndexOutOfBoundsException {
         return busAt(bus).sentCount;
     }
 
@@ -446,21 +455,21 @@ public final class BusHandler {
         return findRing();
     }
 
-    public int ringAt(int index) {
+    public int ringAt(int index) throws NoSuchElementException {
         needElement(index, findRing());
         return ring[index];
     }
 
     // ---- figures and line
 
-    public double meanAsks() {
+    public double meanAsks() throws ArithmeticException {
         if (tally.cycle == 0) {
             throw new ArithmeticException();
         }
         return (double) tally.askCount / (double) tally.cycle;
     }
 
-    public float busyShare(int bus) {
+    public float busyShare(int bus) throws IndexOutOfBoundsException, ArithmeticException {
         Bus asked = busAt(bus);
         if (tally.cycle == 0) {
             throw new ArithmeticException();
@@ -468,7 +477,7 @@ public final class BusHandler {
         return asked.busyShareOf(tally.cycle);
     }
 
-    public float busiestShare() {
+    public float busiestShare() throws ArithmeticException {
         if (tally.cycle == 0) {
             throw new ArithmeticException();
         }
@@ -489,7 +498,7 @@ public final class BusHandler {
         return tally.wasLoose || tally.overtakenCount == 0;
     }
 
-    public int writeAgent(int agent) {
+    public int writeAgent(int agent) throws IndexOutOfBoundsException {
         Agent written = agentAt(agent);
         writtenLine.setLength(0);
         writtenLine.append(written.number).append(' ').append(nameOf(written.kind));
@@ -501,7 +510,7 @@ public final class BusHandler {
         return writtenLine.length();
     }
 
-    public char lineAt(int index) {
+    public char lineAt(int index) throws IndexOutOfBoundsException {
         if (index < 0 || index >= writtenLine.length()) {
             throw new IndexOutOfBoundsException();
         }

@@ -8,7 +8,7 @@ import java.util.TreeSet;
 import java.util.regex.Matcher;
 import java.util.regex.Pattern;
 
-/** The public face: exactly the signatures that the document lists. */
+/** The public face: exactly the signatures that the document lists, with their throws clauses. */
 public final class FaceTest {
     public static void main(String[] args) throws Exception {
         TreeSet<String> wanted = new TreeSet<>();
@@ -16,7 +16,9 @@ public final class FaceTest {
         for (String text : Files.readAllLines(Path.of("../shared/DOC.md"))) {
             Matcher match = signature.matcher(text);
             if (match.matches()) {
-                wanted.add(match.group(1) + "(" + match.group(2).replaceAll(" \\w+(,|$)", "$1") + ")");
+                String types = match.group(2).replaceAll(" \\w+(,|$)", "$1");
+                String thrown = match.group(3) == null ? "" : match.group(3);
+                wanted.add(match.group(1) + "(" + types + ")" + thrown);
             }
         }
         TreeSet<String> found = new TreeSet<>();
@@ -30,7 +32,12 @@ public final class FaceTest {
             }
         }
         Check.due("the document's methods", wanted.size(), 60);
-        Check.due("the face", found.toString(), wanted.toString());
+        for (String face : wanted) {
+            Check.due("wanting: " + face, found.contains(face), true);
+        }
+        for (String face : found) {
+            Check.due("not in the document: " + face, wanted.contains(face), true);
+        }
         for (String face : wanted) {
             String name = face.substring(face.indexOf(' ') + 1, face.indexOf('('));
             Check.due("a private method of the name " + name, hidden.contains(name), false);
@@ -39,6 +46,8 @@ public final class FaceTest {
         Constructor<?>[] constructors = BusHandler.class.getDeclaredConstructors();
         Check.due("constructors", constructors.length, 1);
         Check.due("its parameters", constructors[0].getParameterCount(), 0);
+        Check.due("its exceptions", constructors[0].getExceptionTypes().length, 0);
+        Check.due("it is public", Modifier.isPublic(constructors[0].getModifiers()), true);
         for (Field field : BusHandler.class.getDeclaredFields()) {
             Check.due(field.getName() + " is private", Modifier.isPrivate(field.getModifiers()), true);
         }
@@ -53,6 +62,12 @@ public final class FaceTest {
             text.append(between).append(type.getSimpleName());
             between = ", ";
         }
-        return text.append(')').toString();
+        text.append(')');
+        between = " throws ";
+        for (Class<?> thrown : method.getExceptionTypes()) {
+            text.append(between).append(thrown.getSimpleName());
+            between = ", ";
+        }
+        return text.toString();
     }
 }
