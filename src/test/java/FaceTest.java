@@ -51,6 +51,11 @@ public final class FaceTest {
         for (Field field : BusHandler.class.getDeclaredFields()) {
             Check.due(field.getName() + " is private", Modifier.isPrivate(field.getModifiers()), true);
         }
+        for (Class<?> inside : BusHandler.class.getDeclaredClasses()) {
+            boolean isHidden = (inside.getModifiers() & (Modifier.PUBLIC | Modifier.PROTECTED)) == 0;
+            Check.due(inside.getName() + " is hidden", isHidden, true);
+            Check.due(inside.getName() + " is static", Modifier.isStatic(inside.getModifiers()), true);
+        }
         Check.end();
     }
 
