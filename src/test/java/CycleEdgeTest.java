@@ -25,6 +25,7 @@ public final class CycleEdgeTest {
         answerThatIsTooLate();
         answerToTheReadBefore();
         windowThatMovesBehindTheWrite();
+        windowThatMovesAheadOfTheBox();
         pendingAsTheReadGoes();
         cachesOfTheBus();
         kindsOfMessages();
@@ -70,21 +71,29 @@ public final class CycleEdgeTest {
     /** Which agents were granted the bus in some cycles, each one by a letter from 'a' on; '.' for none. */
     private static String grants(BusHandler x, int agents, int cycles) {
         StringBuilder text = new StringBuilder();
+        int[] before = listsWithoutSteps(x, agents);
         for (int n = 0; n < cycles; n++) {
-            int[] due = new int[agents];
-            for (int k = 0; k < agents; k++) {
-                due[k] = x.listLength(k, false) - x.stepOf(k);
-            }
             x.run(1);
+            int[] now = listsWithoutSteps(x, agents);
             char granted = '.';
             for (int k = 0; k < agents; k++) {
-                if (x.listLength(k, false) - x.stepOf(k) < due[k]) {
+                if (now[k] < before[k]) {
                     granted = (char) ('a' + k);
                 }
             }
             text.append(granted);
+            before = now;
         }
         return text.toString();
+    }
+
+    /** For each agent a number that a message that comes by a step leaves as it is, and one that goes makes less. */
+    private static int[] listsWithoutSteps(BusHandler x, int agents) {
+        int[] numbers = new int[agents];
+        for (int k = 0; k < agents; k++) {
+            numbers[k] = x.listLength(k, false) - x.stepOf(k);
+        }
+        return numbers;
     }
 
     private static void addWriters(BusHandler x, int count, int writes) {
@@ -167,7 +176,7 @@ public final class CycleEdgeTest {
             x.addProcessor(k % 2);
         }
         x.addWrite(2, 5, 0);
-        x.addWrite(3, 510, 0);
+        x.addWrite(1, 510, 0);
         x.run(2);
         Check.due("both have gone", x.sentOn(0) + x.sentOn(1), 2);
         for (int k = 1; k < 5; k++) {
@@ -176,8 +185,8 @@ public final class CycleEdgeTest {
         x.run(2);
         Check.due("on the bus 0 behind 2", x.listLength(4, false), 0);
         Check.due("so 2 has to wait", x.listLength(2, false), 1);
-        Check.due("on the bus 1 behind 3", x.listLength(1, false), 0);
-        Check.due("so 3 has to wait", x.listLength(3, false), 1);
+        Check.due("on the bus 1 behind 1", x.listLength(3, false), 0);
+        Check.due("so 1 has to wait", x.listLength(1, false), 1);
     }
 
     /** "Behind the one granted last on this bus, in either manner." */
@@ -568,6 +577,35 @@ public final class CycleEdgeTest {
         Check.due("the cell by the window as it goes", x.cellAt(0, 14), 8);
         x.run(1);
         Check.due("the last one", x.cellAt(0, 15), 9);
+    }
+
+    /** A read and a write stay in the box while the window moves: their cells are those of the addresses then. */
+    private static void windowThatMovesAheadOfTheBox() {
+        for (int base : new int[] {4, 700}) {
+            BusHandler x = new BusHandler();
+            x.addMemory(0, 0, 16);
+            x.setArbiter(0, true);
+            for (int k = 1; k < 8; k++) {
+                x.addProcessor(0);
+                x.setRank(k, k < 6 ? 9 : 8 - k + 6);
+                if (k < 6) {
+                    x.addRead(k, 4 + k);
+                }
+            }
+            for (int offset = 0; offset < 16; offset++) {
+                x.put(0, offset, 50 + offset);
+            }
+            x.addWrite(6, 12, 77);
+            addWrites(x, 7, 8);
+            x.run(7);
+            Check.due("a read and a write", x.inbox(0), 2);
+            x.moveWindow(0, base);
+            x.run(30);
+            Check.due("the cell that was read", x.valueAt(5, 0), 59);
+            for (int offset = 0; offset < 16; offset++) {
+                Check.due("the cell that was written", x.cellAt(0, offset), offset == 12 ? 77 : 50 + offset);
+            }
+        }
     }
 
     /** "A read of the router is answered by how many messages for this vector are pending." */

@@ -219,6 +219,8 @@ public final class DescriptorEdgeTest {
             x.run(20);
             Check.due("then it is less than the size " + due[0], x.ringIndex(DEVICE), due[1]);
             Check.due("three blocks", x.blocksOf(DEVICE), 3);
+            Check.due("the third one's own places are written", x.cellAt(MEMORY, 16), 0);
+            Check.due("no error", x.errorsOf(DEVICE), 0);
         }
     }
 
@@ -602,6 +604,12 @@ public final class DescriptorEdgeTest {
             Check.due("ended in each way", x.blocksOf(DEVICE), 1);
             Check.due("the bell", x.rung(), way == 1 ? 1 : 0);
         }
+        BusHandler z = board();
+        putDescriptor(z, 8, 40, 1, 1);
+        z.setMessage(DEVICE, 0);
+        start(z, 8, 1, 1);
+        z.run(21);
+        Check.due("the address 0 is one, too", z.cellAt(MEMORY, 0), 1);
         BusHandler y = board();
         putDescriptor(y, 8, 40, 1, 1);
         y.setLine(DEVICE, 1);

@@ -44,7 +44,7 @@ public final class FigureEdgeTest {
         Check.due("the greatest share of one cycle", x.busiestShare(), 0.0f);
     }
 
-    /** A bridge 0 whose lower list is full of reads from the cycle 3 on, for 40 cycles; agents 3 to 8 read across it. */
+    /** A bridge 0 whose lower list can be filled by reads, as 1 and 2 keep the bus 1; agents 3 to 8 are above. */
     private static BusHandler fullOfReads() {
         BusHandler x = new BusHandler();
         x.addBridge(0, 500, 100);

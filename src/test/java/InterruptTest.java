@@ -68,11 +68,11 @@ public final class InterruptTest {
         Check.due("in the log", x.cellAnew(0, 2), 44);
         Check.due("the last cell", x.cellAt(0, 127), 45);
         Check.due("in the log, too", x.cellAnew(0, 127), 45);
-        for (int n = 0; n < 300; n++) {
+        for (int n = 0; n < 200; n++) {
             x.put(0, n % 128, n);
         }
         for (int offset = 0; offset < 128; offset++) {
-            int last = offset < 44 ? 256 + offset : 128 + offset;
+            int last = offset < 72 ? 128 + offset : offset;
             Check.due("kept", x.cellAt(0, offset), last);
             Check.due("a long log", x.cellAnew(0, offset), last);
         }

@@ -15,6 +15,7 @@ public final class OvertakeEdgeTest {
         withoutRouter();
         readOfTheRouterIsNoWrite();
         onlyListsOfBridges();
+        notInTheCycleInWhichItCame();
         bothListsOfALooseBridge();
         countOfOvertaken();
         Check.end();
@@ -413,8 +414,8 @@ public final class OvertakeEdgeTest {
         Check.due("none was overtaken", x.overtaken(), 0);
     }
 
-    /** The box of the memory 1 below is full; the write that is held back leads down, the other way none is. */
-    private static void bothListsOfALooseBridge() {
+    /** A bridge 0 and a memory 1 below, whose box is full; a router 2 below, processors 3 and 13 above. */
+    private static BusHandler fullBoxBelow() {
         BusHandler x = new BusHandler();
         x.addBridge(0, 500, 100);
         x.addMemory(1, 500, 16);
@@ -432,8 +433,27 @@ public final class OvertakeEdgeTest {
             x.addWrite(12, 590, n);
         }
         x.setRank(12, 1);
+        x.addProcessor(0);
         x.run(9);
         Check.due("the box is full", x.inbox(1), 4);
+        return x;
+    }
+
+    /** "That came into it in an earlier cycle": the bus 1 has its turn behind the bus 0, but not for what just came. */
+    private static void notInTheCycleInWhichItCame() {
+        BusHandler x = fullBoxBelow();
+        x.addRead(3, 501);
+        x.run(2);
+        x.addWrite(13, 599, 0);
+        x.run(2);
+        Check.due("the write has come", Check.lineOf(x, 0), "0 bridge bus0 q501 w599");
+        x.run(1);
+        Check.due("and goes in the next cycle", Check.lineOf(x, 0), "0 bridge bus0 q501");
+    }
+
+    /** The write that is held back leads down; the other list of the bridge is empty. */
+    private static void bothListsOfALooseBridge() {
+        BusHandler x = fullBoxBelow();
         x.addWrite(3, 501, 0);
         x.addWrite(3, 560, 0);
         x.addWrite(3, 567, 0);

@@ -438,11 +438,13 @@ public final class ProcessorEdgeTest {
     private static void cellsFromZeroToTheLast() {
         for (int size : new int[] {1, 2, 128}) {
             BusHandler x = new BusHandler();
+            BusHandler y = new BusHandler();
             x.addMemory(0, 0, size);
+            y.addMemory(0, 0, size);
             for (int offset = 0; offset < size; offset++) {
                 Check.due("0 at first", x.cellAt(0, offset) + x.cellAnew(0, offset), 0);
-                Check.due("not spoilt at first", x.spoil(0, offset), false);
-                Check.due("put", x.put(0, offset, 1), 0);
+                Check.due("not spoilt at first", y.spoil(0, offset), false);
+                Check.due("put", y.put(0, offset, 1), 0);
             }
             for (int offset : new int[] {-1, size, 128, Integer.MIN_VALUE, Integer.MAX_VALUE}) {
                 Check.thrown("cellAt", Check.OUT, () -> x.cellAt(0, offset));

@@ -1,4 +1,4 @@
-/** "Devices", "Pulling" and the promises 23 to 27 and 34: registers, sleep, full lists, and what a pulled one does not do. */
+/** "Devices", "Pulling" and the promises 23 to 27 and 34: registers, sleep, full lists, what a pulled one does not do. */
 public final class RegisterEdgeTest {
     private static final int MEMORY = 0;
     private static final int PROCESSOR = 1;
@@ -6,6 +6,7 @@ public final class RegisterEdgeTest {
 
     public static void main(String[] args) {
         fortyValues();
+        refusedValueIsNotKept();
         messageAddresses();
         lines();
         registersAtFirst();
@@ -83,6 +84,30 @@ public final class RegisterEdgeTest {
         Check.thrown("full again", Check.STATE, () -> x.load(DEVICE, 0));
         x.run(8);
         Check.due("the first one was moved", x.cellAt(MEMORY, 40), 9999);
+    }
+
+    /** Behind a refused call the 40 values are those that were given, in their order. */
+    private static void refusedValueIsNotKept() {
+        BusHandler x = board();
+        for (int k = 0; k < 5; k++) {
+            putDescriptor(x, 8 + 4 * k, 40 + 8 * (k % 2), 8, 0);
+        }
+        for (int n = 0; n < 40; n++) {
+            x.load(DEVICE, 100 + n);
+        }
+        Check.thrown("a 41st value", Check.STATE, () -> x.load(DEVICE, 9999));
+        start(x, 5, 5);
+        int[] blocks = {2, 4, 5};
+        for (int count : blocks) {
+            for (int n = 0; n < 80 && x.blocksOf(DEVICE) < count; n++) {
+                x.run(1);
+            }
+            x.run(3);
+            for (int n = 8 * (count - 1); n < 8 * count; n++) {
+                Check.due("the value", x.cellAt(MEMORY, 40 + 8 * ((count - 1) % 2) + n % 8), 100 + n);
+            }
+        }
+        Check.due("all are gone", x.load(DEVICE, 1), 1);
     }
 
     /** "The address, 0 to 1023"; "or -1 if it did not interrupt by a write". */
@@ -267,7 +292,9 @@ public final class RegisterEdgeTest {
             states.append(x.stateOf(DEVICE));
             int errors = x.errorsOf(DEVICE);
             int blocks = x.blocksOf(DEVICE);
+            int data = x.load(DEVICE, 77);
             x.run(1);
+            Check.due("its data stay", x.load(DEVICE, 78), data + 1);
             Check.due("asleep", x.register(DEVICE, 3), 0);
             Check.due("no doorbells", x.register(DEVICE, 0), 0);
             Check.due("the ring index", x.ringIndex(DEVICE), 0);

@@ -156,7 +156,7 @@ public final class RoomEdgeTest {
 
     // ---- boxes
 
-    /** A memory of the rank 0: 4 of 5 answers stay in its list, the fifth read stays in its box; 14 and 15 keep the bus. */
+    /** A memory of the rank 0: 4 of 5 answers stay in its list, the fifth read in its box; 14 and 15 keep the bus. */
     private static BusHandler stuckMemory() {
         BusHandler x = new BusHandler();
         x.addMemory(0, 0, 16);

@@ -19,13 +19,17 @@ import java.util.regex.Pattern;
 public final class StrayTest {
     private static final int[] ODD = {-1, 8, 9, 16, 40, 41, 128, 129, 201, 1023, 1024, 9999, 10000,
         Integer.MAX_VALUE, Integer.MIN_VALUE};
+    /** Together fewer than the 512 calls for which an object is used. */
+    private static final int CALLS = 260;
+    private static final int LOOKS = 250;
+    private static final String CHANGES = "add.*|set.*|put|spoil|load|pull|run|moveWindow";
     private static final Map<String, String> ALLOWED = new HashMap<>();
     private static long seed = 1;
 
     public static void main(String[] args) throws Exception {
         readAllowed();
         Method[] methods = methodsByName();
-        for (int game = 0; game < 400; game++) {
+        for (int game = 0; game < 800; game++) {
             play(methods, game);
         }
         Check.end();
@@ -56,7 +60,7 @@ public final class StrayTest {
     private static void play(Method[] methods, int game) throws Exception {
         BusHandler board = new BusHandler();
         BusHandler twin = new BusHandler();
-        for (int n = 0; n < 512; n++) {
+        for (int n = 0; n < CALLS; n++) {
             Method method = pick(methods, n);
             Object[] arguments = argumentsFor(method, game % 4 != 0);
             String what = "game " + game + ", call " + n + ": " + method.getName() + Arrays.toString(arguments);
@@ -69,7 +73,12 @@ public final class StrayTest {
                 Check.due(what + " throws " + name, allowed.contains(", " + name + ","), true);
             }
         }
-        Check.due("game " + game + " ends alike", shown(board, methods), shown(twin, methods));
+        for (int n = 0; n < LOOKS; n++) {
+            Method method = pickLook(methods);
+            Object[] arguments = argumentsFor(method, true);
+            String what = "game " + game + " ends alike: " + method.getName() + Arrays.toString(arguments);
+            Check.due(what, answer(board, method, arguments), answer(twin, method, arguments));
+        }
         Check.due("game " + game + " is consistent", board.isConsistent(), true);
     }
 
@@ -108,30 +117,16 @@ public final class StrayTest {
         return (int) Long.remainderUnsigned(seed >>> 33, bound);
     }
 
-    /** All that the calls that only look can tell, for small arguments. */
-    private static String shown(BusHandler board, Method[] methods) throws Exception {
-        StringBuilder text = new StringBuilder();
-        for (Method method : methods) {
-            String name = method.getName();
-            Class<?>[] types = method.getParameterTypes();
-            boolean isLook = !name.matches("add.*|set.*|put|spoil|load|pull|run|moveWindow");
-            if (isLook && types.length < 3) {
-                for (int a = 0; a < (types.length > 0 ? 16 : 1); a++) {
-                    for (int b = 0; b < (types.length > 1 ? 20 : 1); b++) {
-                        text.append(answer(board, method, types, a, b)).append(' ');
-                    }
-                }
-            }
+    /** One of the calls that only look. */
+    private static Method pickLook(Method[] methods) {
+        Method method = methods[next(methods.length)];
+        for (int tries = 0; tries < 500 && method.getName().matches(CHANGES); tries++) {
+            method = methods[next(methods.length)];
         }
-        return text.toString();
+        return method;
     }
 
-    private static String answer(BusHandler board, Method method, Class<?>[] types, int a, int b) throws Exception {
-        Object[] arguments = new Object[types.length];
-        for (int i = 0; i < types.length; i++) {
-            int value = i == 0 ? a : b;
-            arguments[i] = types[i] == boolean.class ? (Object) (value % 2 == 1) : (Object) value;
-        }
+    private static String answer(BusHandler board, Method method, Object[] arguments) throws Exception {
         try {
             return String.valueOf(method.invoke(board, arguments));
         } catch (InvocationTargetException e) {

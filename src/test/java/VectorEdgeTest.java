@@ -1,4 +1,4 @@
-/** "Interrupts" and the promises 39 to 43, and 52: until when a line is raised, what can be taken, and what is early. */
+/** "Interrupts" and the promises 39 to 43, and 52: until when a line is raised, what can be taken, what is early. */
 public final class VectorEdgeTest {
     private static final int MEMORY = 0;
     private static final int PROCESSOR = 1;
@@ -37,6 +37,7 @@ public final class VectorEdgeTest {
         earlyByEachMessageInTurn();
         earlyByAPulledDevice();
         earlyByTheLatestRaising();
+        earlyByEitherOfTwo();
         Check.end();
     }
 
@@ -94,7 +95,7 @@ public final class VectorEdgeTest {
         Check.due("nor has it a number", x.addProcessor(0), 2);
     }
 
-    /** "Masks a vector, or not, as at first"; "the rank of a vector, 0 at first"; the vectors 0 to 7, the lines 0 to 3. */
+    /** "Masks a vector, or not, as at first"; "the rank of a vector, 0 at first"; vectors 0 to 7, lines 0 to 3. */
     private static void vectorsAndLinesAtFirst() {
         BusHandler x = new BusHandler();
         for (int vector = 0; vector < 8; vector++) {
@@ -708,6 +709,38 @@ public final class VectorEdgeTest {
             Check.due("taken", x.takenAt(WAITER, 0), 0);
             Check.due("early, if it was raised behind them", x.early(), 1 - more);
             Check.due("the bell rang once", x.rung(), 1);
+        }
+    }
+
+    /** "Or by one of the devices that raise the line": the other one has nothing under way. */
+    private static void earlyByEitherOfTwo() {
+        for (int device = FIRST; device <= SECOND; device++) {
+            BusHandler x = board();
+            x.setMask(0, true);
+            raise(x, FIRST + SECOND - device, 0);
+            x.run(5);
+            x.setLine(device, 0);
+            int ring = device == FIRST ? 8 : 12;
+            x.put(MEMORY, ring, 1);
+            x.put(MEMORY, ring + 2, 1);
+            x.addWrite(PROCESSOR, device == FIRST ? 100 : 104, 1);
+            x.run(9);
+            x.addProcessor(0);
+            x.setRank(6, 8);
+            for (int n = 0; n < 16; n++) {
+                x.addWrite(6, 900, n);
+            }
+            x.setRank(MEMORY, 9);
+            x.setArbiter(0, true);
+            x.run(5);
+            Check.due("two raise it", x.raisedOn(0), 2);
+            Check.due("one has writes in its list", x.listLength(device, false), 2);
+            Check.due("the other one has none", x.listLength(FIRST + SECOND - device, false), 0);
+            x.addWait(WAITER, 0);
+            x.setMask(0, false);
+            x.run(1);
+            Check.due("taken", x.takenAt(WAITER, 0), 0);
+            Check.due("early", x.early(), 1);
         }
     }
 }
