@@ -1,4 +1,4 @@
-/** "Devices", "Pulling" and the promises 23 to 27 and 34: registers, sleep, full lists, what a pulled one does not do. */
+/** "Devices", "Pulling" and the promises 23 to 27 and 34: registers, sleep, full lists, what a pulled one does not. */
 public final class RegisterEdgeTest {
     private static final int MEMORY = 0;
     private static final int PROCESSOR = 1;
