@@ -21,6 +21,7 @@ public final class CycleEdgeTest {
         readsOfNobodyAtOnce();
         readsOfNobodyInABridge();
         answerForAPulledDevice();
+        answerOfNobodyForAPulledDevice();
         answerForAPulledDeviceTakesRoom();
         answerThatIsTooLate();
         answerToTheReadBefore();
@@ -326,6 +327,8 @@ public final class CycleEdgeTest {
         Check.due("none of both lists has an offer", x.asksOf(0), 2);
         x.run(7);
         Check.due("twice a cycle", x.asksOf(0), 16);
+        int others = x.asksOf(1) + x.asksOf(2) + x.asksOf(3) + x.asksOf(4);
+        Check.due("each of them in the mean", x.meanAsks(), (double) (16 + others) / 13.0);
     }
 
     // ---- acts
@@ -496,6 +499,26 @@ public final class CycleEdgeTest {
         x.run(5);
         Check.due("still no room", x.listLength(0, true), 4);
         Check.due("it asks again", x.asksOf(1), asked + 5);
+    }
+
+    /** "The answer comes into its other list": also that to a read of a device that is not there any more. */
+    private static void answerOfNobodyForAPulledDevice() {
+        BusHandler x = new BusHandler();
+        x.addBridge(0, 500, 100);
+        x.addDevice(1, 501);
+        x.addProcessor(1);
+        x.addWrite(2, 502, 900);
+        x.addWrite(2, 503, 1);
+        x.addWrite(2, 501, 1);
+        x.run(5);
+        Check.due("its read is in the bridge", Check.lineOf(x, 0), "0 bridge bus0 q900");
+        Check.due("no message is lost", x.pull(1), 0);
+        Check.due("the read goes", x.run(1), 1);
+        Check.due("and its answer is in the other list", Check.lineOf(x, 0), "0 bridge bus0 a");
+        Check.due("this leads down", x.listLength(0, true), 1);
+        Check.due("it goes, too", x.run(1), 1);
+        Check.due("and is dropped", x.listLength(0, true), 0);
+        Check.due("without an error", x.errorsOf(1), 0);
     }
 
     /** A processor below a bridge: its answer is too late, and is dropped on its bus, not before. */

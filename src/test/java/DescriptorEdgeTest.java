@@ -24,9 +24,14 @@ public final class DescriptorEdgeTest {
         dataThatComesTooLate();
         fortyValuesInAll();
         nothingBehindFortyValues();
+        dataTakeNoRoomFromWhatIsReceived();
+        greatValuesAndAddresses();
         errorsOfTheFourReads();
         lateErrorsOfTheFourReads();
         errorsInABlock();
+        errorInABlockWithMore();
+        sleepingNeighbour();
+        sleepingNeighbourInABlock();
         placesOfTheEnd();
         interruptAsToldLast();
         nextDescriptorInTheNextAct();
@@ -480,6 +485,55 @@ public final class DescriptorEdgeTest {
         Check.due("the last of them", x.cellAt(MEMORY, 42), 33);
     }
 
+    /** What is loaded and what is received are two things. */
+    private static void dataTakeNoRoomFromWhatIsReceived() {
+        BusHandler x = received(38);
+        giveData(x, 40);
+        putDescriptor(x, 8, 40, 8, 1);
+        x.addWrite(PROCESSOR, 100, 1);
+        x.run(42);
+        Check.due("two more", x.received(DEVICE), 40);
+        Check.due("were moved", x.cellAt(MEMORY, 10), 2);
+        putDescriptor(x, 8, 40, 8, 0);
+        x.addWrite(PROCESSOR, 100, 1);
+        x.run(42);
+        Check.due("8 of the data are written", x.cellAt(MEMORY, 47), 38);
+        Check.due("32 are left", x.load(DEVICE, 0), 33);
+    }
+
+    /** "The value, 0 to 9999": as data, as what is received, as an address, and as a base. */
+    private static void greatValuesAndAddresses() {
+        BusHandler x = board();
+        x.put(MEMORY, 40, 9999);
+        putDescriptor(x, 8, 40, 1, 1);
+        putDescriptor(x, 12, 50, 1, 0);
+        putDescriptor(x, 16, 9999, 2, 0);
+        x.load(DEVICE, 9999);
+        x.load(DEVICE, 31);
+        x.load(DEVICE, 32);
+        start(x, 8, 3, 3);
+        x.run(16);
+        Check.due("received", x.receivedAt(DEVICE, 0), 9999);
+        x.run(16);
+        Check.due("written", x.cellAt(MEMORY, 50), 9999);
+        for (int n = 0; n < 20 && x.listLength(DEVICE, false) + x.stateOf(DEVICE) != 'm' + 1; n++) {
+            x.run(1);
+        }
+        Check.due("to the last address that a value can tell", Check.lineOf(x, DEVICE), "2 device bus0 w9999");
+        x.run(1);
+        Check.due("and to the next one", Check.lineOf(x, DEVICE), "2 device bus0 w10000");
+        x.run(20);
+        Check.due("both are lost", x.lost(), 2);
+        Check.due("but moved", x.cellAt(MEMORY, 18), 2);
+        start(x, 9999, 1, 1);
+        x.run(3);
+        Check.due("a base beyond all windows", x.register(DEVICE, 1), 9999);
+        x.run(1);
+        Check.due("its owner", Check.lineOf(x, DEVICE), "2 device bus0 q9999");
+        x.run(3);
+        Check.due("is nobody's", x.lastError(DEVICE), 'n');
+    }
+
     // ---- errors
 
     /** "If a read of these four gives an error, this is an error of the device; no doorbells any more, and idle." */
@@ -557,6 +611,74 @@ public final class DescriptorEdgeTest {
             Check.due("the next one", x.ringIndex(DEVICE), 1);
             Check.due("errors, with that of the next owner", x.errorsOf(DEVICE), bad < 3 ? 2 : 1);
         }
+    }
+
+    /** "It interrupts, unless there is more": also behind an error. */
+    private static void errorInABlockWithMore() {
+        for (int flags = 1; flags <= 3; flags += 2) {
+            BusHandler x = board();
+            putDescriptor(x, 8, 40, 3, flags);
+            x.setLine(DEVICE, 0);
+            x.spoil(MEMORY, 41);
+            start(x, 8, 2, 1);
+            x.run(20);
+            runUntilIdle(x);
+            Check.due("one was moved", x.cellAt(MEMORY, 10), 1);
+            Check.due("ended", x.blocksOf(DEVICE), 1);
+            Check.due("the error", x.lastError(DEVICE), 'p');
+            Check.due("the line", x.raisedOn(0), flags == 1 ? 1 : 0);
+            Check.due("the bell", x.rung(), flags == 1 ? 1 : 0);
+        }
+    }
+
+    /** A board with a device 4 at 96, just behind the memory, which is asleep. */
+    private static BusHandler withSleeper() {
+        BusHandler x = board();
+        x.addDevice(0, 96);
+        x.addWrite(PROCESSOR, 99, 0);
+        x.run(2);
+        Check.due("asleep", x.register(4, 3), 0);
+        return x;
+    }
+
+    /** The error 's' of each of the four reads has the same end as the others. */
+    private static void sleepingNeighbour() {
+        for (int part = 0; part < 4; part++) {
+            BusHandler x = withSleeper();
+            int base = 96 - part;
+            int[] words = {1, 40, 2, 1};
+            for (int i = 0; i < part; i++) {
+                x.put(MEMORY, base + i, words[i]);
+            }
+            start(x, base, 1, 5);
+            x.run(30);
+            Check.due("asleep", x.lastError(DEVICE), 's');
+            Check.due("one error", x.errorsOf(DEVICE), 1);
+            Check.due("no doorbells", x.register(DEVICE, 0), 0);
+            Check.due("idle", x.stateOf(DEVICE), 'i');
+            Check.due("no block has ended", x.blocksOf(DEVICE), 0);
+            Check.due("nothing was written", x.lost(), 0);
+        }
+    }
+
+    private static void sleepingNeighbourInABlock() {
+        BusHandler x = withSleeper();
+        x.put(MEMORY, 95, 61);
+        putDescriptor(x, 8, 94, 4, 1);
+        start(x, 8, 1, 1);
+        x.run(40);
+        Check.due("asleep", x.lastError(DEVICE), 's');
+        Check.due("two values were received", x.received(DEVICE), 2);
+        Check.due("the second one", x.receivedAt(DEVICE, 1), 61);
+        Check.due("two were moved", x.cellAt(MEMORY, 10), 2);
+        Check.due("ended", x.blocksOf(DEVICE), 1);
+        putDescriptor(x, 8, 94, 4, 0);
+        giveData(x, 4);
+        x.addWrite(PROCESSOR, 100, 1);
+        x.run(40);
+        Check.due("outward all are moved", x.cellAt(MEMORY, 10), 4);
+        Check.due("but two are lost", x.lost(), 2);
+        Check.due("this is no error of the device", x.errorsOf(DEVICE), 1);
     }
 
     // ---- the end

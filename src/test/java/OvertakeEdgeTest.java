@@ -325,7 +325,7 @@ public final class OvertakeEdgeTest {
         Check.due("for its last vector", x.pending(7), 1);
     }
 
-    /** The window of the router counts wherever the router is. */
+    /** "Its address is in the window of the router", on whatever bus that is: "there is at most one router". */
     private static void routerOnAnotherBus() {
         BusHandler x = new BusHandler();
         x.addBridge(0, 500, 100);

@@ -14,6 +14,7 @@ public final class RoomEdgeTest {
             fourAnswers(isUp);
             eachKindHasItsOwnRoom(isUp);
             answersOfNobodyNeedNoRoom(isUp);
+            roomBesideFiveAnswers(isUp);
         }
         boxOfFour();
         boxOfFourReads();
@@ -152,6 +153,30 @@ public final class RoomEdgeTest {
         x.run(60);
         Check.due("the one that is too late", x.errorAt(FIRST_READER, 0), 't');
         Check.due("all have gone", x.listLength(BRIDGE, !isUp), 0);
+    }
+
+    /** The answer for which there was no room takes none from the writes and reads. */
+    private static void roomBesideFiveAnswers(boolean isUp) {
+        BusHandler x = blocked(isUp);
+        for (int k = 0; k < 4; k++) {
+            x.addRead(FIRST_READER + k, (isUp ? 500 : 0) + k);
+        }
+        x.addRead(FIRST_READER + 4, isUp ? 590 : 900);
+        x.run(25);
+        for (int n = 0; n < 5; n++) {
+            x.addWrite(WRITER, across(isUp), n);
+        }
+        x.run(8);
+        for (int k = 0; k < 3; k++) {
+            x.addRead(FIRST_FAR_READER + k, across(isUp));
+        }
+        x.run(12);
+        Check.due("5 answers", countOf(x, isUp, 'a'), 5);
+        Check.due("4 writes beside them", countOf(x, isUp, 'w'), 4);
+        Check.due("2 reads beside them", countOf(x, isUp, 'q'), 2);
+        Check.due("one write stays", x.listLength(WRITER, false), 1);
+        Check.due("one read stays", x.listLength(FIRST_FAR_READER + 2, false), 1);
+        Check.due("all is in order", x.isConsistent(), true);
     }
 
     // ---- boxes

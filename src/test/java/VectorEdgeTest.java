@@ -38,6 +38,10 @@ public final class VectorEdgeTest {
         earlyByAPulledDevice();
         earlyByTheLatestRaising();
         earlyByEitherOfTwo();
+        earlyByWhatIsTaken();
+        earlyWhateverIsWritten();
+        inTheOrderInWhichTheyCame();
+        readInTheMidstOfADescriptor();
         Check.end();
     }
 
@@ -742,5 +746,91 @@ public final class VectorEdgeTest {
             Check.due("taken", x.takenAt(WAITER, 0), 0);
             Check.due("early", x.early(), 1);
         }
+    }
+
+    /** "A message is taken ahead of a line": then the writes of the device that raises the line do not count. */
+    private static void earlyByWhatIsTaken() {
+        BusHandler x = board();
+        x.addWrite(PROCESSOR, 160, 0);
+        x.setArbiter(0, true);
+        x.setRank(PROCESSOR, 9);
+        x.setRank(MEMORY, 9);
+        x.setLine(FIRST, 0);
+        x.put(MEMORY, 8, 1);
+        x.put(MEMORY, 10, 1);
+        x.addWrite(PROCESSOR, 100, 1);
+        x.run(10);
+        x.addProcessor(0);
+        x.setRank(6, 8);
+        for (int n = 0; n < 16; n++) {
+            x.addWrite(6, 900, n);
+        }
+        x.run(5);
+        Check.due("the line is raised", x.raisedOn(0), 1);
+        Check.due("behind writes in its list", Check.lineOf(x, FIRST), "2 device bus0 w10 w8");
+        Check.due("a message of another agent", x.pending(0), 1);
+        x.addWait(WAITER, 0);
+        x.addWait(WAITER, -1);
+        x.run(1);
+        Check.due("the message is taken", x.pending(0), 0);
+        Check.due("in time", x.early(), 0);
+        x.run(1);
+        Check.due("then the line", x.takenAt(WAITER, 1), 0);
+        Check.due("early", x.early(), 1);
+    }
+
+    /** "There is a write": of any value, and to any address. */
+    private static void earlyWhateverIsWritten() {
+        for (int value : new int[] {0, 1, 9999}) {
+            BusHandler x = heldBack();
+            x.addWrite(3, 1, value);
+            x.addWrite(3, 161, 0);
+            x.run(5);
+            Check.due("the write is held back", Check.lineOf(x, 1), "1 bridge bus0 w1");
+            x.addWait(5, -1);
+            x.run(1);
+            Check.due("early", x.early(), 1);
+        }
+    }
+
+    /** "Those that came first": to the router, not into the lists of their agents. */
+    private static void inTheOrderInWhichTheyCame() {
+        BusHandler x = heldBack();
+        x.setRank(5, 8);
+        x.addWrite(2, 1, 11);
+        x.run(3);
+        Check.due("a write of 2 is held back", Check.lineOf(x, 1), "1 bridge bus0 w1");
+        x.addWrite(2, 161, 0);
+        x.addWrite(5, 161, 0);
+        x.run(2);
+        Check.due("that of 5 has come, that of 2 is in the bridge", x.pending(1), 1);
+        x.run(1);
+        Check.due("both have come", x.pending(1), 2);
+        x.addWait(4, 1);
+        x.addWait(4, 1);
+        x.run(1);
+        Check.due("that of 5 is taken, in time", x.early(), 0);
+        x.run(1);
+        Check.due("that of 2 is taken, early", x.early(), 1);
+        Check.due("none is left", x.pending(1), 0);
+    }
+
+    /** "Until its register 0 is read", also while the device has doorbells, and is at work. */
+    private static void readInTheMidstOfADescriptor() {
+        BusHandler x = board();
+        raise(x, FIRST, 3);
+        x.put(MEMORY, 8, 1);
+        x.put(MEMORY, 10, 1);
+        x.setLine(FIRST, -1);
+        x.setArbiter(0, true);
+        x.setRank(PROCESSOR, 9);
+        x.addWrite(PROCESSOR, 100, 5);
+        x.addRead(PROCESSOR, 100);
+        x.run(3);
+        Check.due("it is at work", x.stateOf(FIRST), 'o');
+        Check.due("the read has gone", x.readsOf(PROCESSOR), 0);
+        Check.due("the line", x.raisedOn(3), 0);
+        x.run(4);
+        Check.due("its doorbells", x.valueAt(PROCESSOR, 0), 5);
     }
 }
