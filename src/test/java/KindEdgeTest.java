@@ -9,6 +9,7 @@ public final class KindEdgeTest {
     public static void main(String[] args) {
         eachKindByRank();
         eachKindByTurn();
+        eachKindBehindTheFirstAgent();
         lowerBusByRank();
         eachKindAsksAgain();
         registersByAddress();
@@ -87,6 +88,31 @@ public final class KindEdgeTest {
         int steps = x.stepOf(HOG);
         x.run(1);
         Check.due("then the one that had kept the bus", x.stepOf(HOG), steps + 1);
+    }
+
+    /** "The first one behind the one granted last": the memory 0 has one more, but whoever is behind it comes first. */
+    private static void eachKindBehindTheFirstAgent() {
+        for (int behind : new int[] {1, 2, BRIDGE, WRITER}) {
+            BusHandler x = allOffer();
+            x.addProcessor(0);
+            x.setRank(12, 9);
+            x.addRead(12, 6);
+            x.run(2);
+            Check.due("two answers", x.listLength(0, false), 2);
+            for (int k : OFFERING) {
+                if (k > 0 && k < behind) {
+                    x.setRank(k, 9);
+                    x.run(1);
+                }
+            }
+            x.setRank(0, 9);
+            x.run(1);
+            Check.due("the memory has been granted", x.listLength(0, false), 1);
+            x.setArbiter(0, false);
+            x.run(1);
+            Check.due("then the one behind it", x.listLength(behind, false), 0);
+            Check.due("but not the memory again", x.listLength(0, false), 1);
+        }
     }
 
     /** A bridge has one rank, for both of its buses. */
